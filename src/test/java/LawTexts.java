@@ -20,6 +20,27 @@ final class LawTexts {
         return text.length() > 700 ? text.substring(0, 700) : text.toString();
     }
 
+    /** Without a FAULT, with some of each kind. */
+    static String season(Random dice) {
+        StringBuilder text = new StringBuilder();
+        for (int i = 0; i < 4; i++) {
+            String part = ModelLaw.PARTS.get(i);
+            text.append("drift ").append(part).append(' ').append(dice.nextInt(10)).append(';');
+            text.append("luck ").append(part).append(' ').append(dice.nextInt(10)).append(';');
+        }
+        for (int i = 1; i < 9; i++) {
+            text.append("points ").append(i).append(' ').append(dice.nextInt(30)).append(';');
+            text.append(i < 4 ? "prize " + i + " " + dice.nextInt(10000) + ";" : "");
+        }
+        for (int i = 0; i < 3; i++) {
+            text.append(dice.nextInt(3) > 0 ? "cut " + i + " " + (1 + dice.nextInt(14)) + ";" : "");
+            text.append(dice.nextInt(3) > 0 ? "weigh " + dice.nextInt(12) + " " + dice.nextInt(21) + ";" : "");
+            text.append(dice.nextInt(3) > 0 ? "hour tee " + dice.nextInt(9) + " from " + dice.nextInt(12) + ";" : "");
+            text.append("press last more ").append(dice.nextInt(9)).append(" if ").append(any(dice, 9)).append(';');
+        }
+        return text.length() > 700 ? "luck tee 9;" : text.toString();
+    }
+
     private static void spoil(Random dice, StringBuilder text) {
         int at = dice.nextInt(text.length() + 1);
         int end = Math.min(text.length(), at + dice.nextInt(4));
