@@ -679,6 +679,8 @@ public final class LuckLinks {
         final int[] points = new int[PLACES + 1];
         /** NONE where no "weigh" tells of that AGE. */
         final int[] weights = new int[WEEKS];
+        /** What holds of each AGE; the oldest ROUND there can be is of AGE 40. */
+        private final int[] weightsByAge = new int[WEEKS + 1];
         private int hourRules = 0;
         private final int[] hourParts = new int[RULES];
         private final int[] hourStrokes = new int[RULES];
@@ -694,6 +696,7 @@ public final class LuckLinks {
 
         Law() {
             Arrays.fill(weights, NONE);
+            Arrays.fill(weightsByAge, 1);
         }
 
         void clear() {
@@ -735,13 +738,19 @@ public final class LuckLinks {
             }
         }
 
-        int weightOf(int age) {
-            for (int told = Math.min(age, WEEKS - 1); told >= 0; told--) {
-                if (weights[told] != NONE) {
-                    return weights[told];
+        /** Once all RULES are read. */
+        void spreadWeights() {
+            int weight = 1;
+            for (int age = 0; age <= WEEKS; age++) {
+                if (age < WEEKS && weights[age] != NONE) {
+                    weight = weights[age];
                 }
+                weightsByAge[age] = weight;
             }
-            return 1;
+        }
+
+        int weightOf(int age) {
+            return age >= 0 && age <= WEEKS ? weightsByAge[age] : 1;
         }
 
         int strokesByHour(int part, int hour) {
@@ -828,7 +837,11 @@ public final class LuckLinks {
             law.clear();
             end = 0;
             step();
-            return readRules() ? NONE : start;
+            if (!readRules()) {
+                return start;
+            }
+            law.spreadWeights();
+            return NONE;
         }
 
         private boolean readRules() {
@@ -1684,6 +1697,7 @@ public final class LuckLinks {
         private final long[] step = new long[2 * STEP_REACH + 1];
         private final long[] gap = new long[2 * GAP_REACH + 1];
         private final long[] nextGap = new long[2 * GAP_REACH + 1];
+        private long greatestStep = 0;
         /** The greatest sum of the LOT. */
         private int reach = 0;
         private final int[] strokes = new int[PLAYERS];
@@ -1755,31 +1769,24 @@ public final class LuckLinks {
         int roundsNeeded(int d, int part, Law law) {
             fillLot(law);
             fillStep();
-            long wanted = part * (MILLION / 100);
             Arrays.fill(gap, 0);
             System.arraycopy(step, 0, gap, GAP_REACH - STEP_REACH, step.length);
+            long wanted = part * (MILLION / 100);
+            int far = 2 * reach;
             for (int rounds = 1; rounds <= NEEDED; rounds++) {
-                int edge = GAP_REACH - rounds * d;
-                if (partFrom(edge + 1) >= wanted) {
+                if (gapsAbove(-rounds * d, far) >= wanted) {
                     return rounds;
                 }
                 // What is cut never comes back, so all that is left only shrinks.
-                if (partFrom(0) < wanted) {
+                if (gapsAbove(-far - 1, far) < wanted) {
                     return NONE;
                 }
                 if (rounds < NEEDED) {
-                    addStep(rounds * 2 * reach);
+                    addStep(far);
+                    far += 2 * reach;
                 }
             }
             return NONE;
-        }
-
-        private long partFrom(int from) {
-            long together = 0;
-            for (int i = Math.max(0, from); i < gap.length; i++) {
-                together += gap[i];
-            }
-            return together;
         }
 
         private void fillStep() {
@@ -1789,23 +1796,39 @@ public final class LuckLinks {
                     step[a - b + STEP_REACH] += lot[a + LOT_REACH] * lot[b + LOT_REACH] / MILLION;
                 }
             }
+            greatestStep = 0;
+            for (int i = 0; i < step.length; i++) {
+                greatestStep = Math.max(greatestStep, step[i]);
+            }
         }
 
-        /** The difference of one ROUND more; that of those ahead goes as far as so many strokes. */
+        /** The part of all differences that are above one; none goes farther than that. */
+        private long gapsAbove(int difference, int far) {
+            long together = 0;
+            int from = Math.max(0, GAP_REACH + Math.max(-far, difference + 1));
+            for (int i = from; i <= GAP_REACH + far && i < gap.length; i++) {
+                together += gap[i];
+            }
+            return together;
+        }
+
+        /** One ROUND more. Less and more come alike, so one side is reckoned, the other copied. */
         private void addStep(int far) {
             Arrays.fill(nextGap, 0);
             int most = 2 * reach;
             for (int i = Math.max(0, GAP_REACH - far); i <= GAP_REACH + far && i < gap.length; i++) {
-                if (gap[i] > 0) {
-                    for (int more = -most; more <= most; more++) {
-                        int to = i + more;
-                        if (to >= 0 && to < nextGap.length) {
-                            nextGap[to] += gap[i] * step[more + STEP_REACH] / MILLION;
-                        }
+                long here = gap[i];
+                if (here * greatestStep >= MILLION) {
+                    int end = Math.min(nextGap.length - 1, i + most);
+                    for (int to = Math.max(GAP_REACH, i - most); to <= end; to++) {
+                        nextGap[to] += here * step[to - i + STEP_REACH] / MILLION;
                     }
                 }
             }
-            System.arraycopy(nextGap, 0, gap, 0, gap.length);
+            for (int more = 0; more <= far + most && more <= GAP_REACH; more++) {
+                gap[GAP_REACH + more] = nextGap[GAP_REACH + more];
+                gap[GAP_REACH - more] = nextGap[GAP_REACH + more];
+            }
         }
     }
 
