@@ -608,7 +608,8 @@ public final class LuckLinks {
         }
 
         private static int slotOf(int player, int week, int day) {
-            boolean isSlot = player >= 0 && player < PLAYERS && isWeek(week) && day >= 0 && day < DAYS;
+            boolean isSlot = player >= 0 && player < PLAYERS && week >= 0 && week < WEEKS
+                    && day >= 0 && day < DAYS;
             return isSlot ? (week * DAYS + day) * PLAYERS + player : NONE;
         }
 
@@ -618,34 +619,37 @@ public final class LuckLinks {
         }
 
         boolean hasRound(int player, int week, int day) {
-            return hourOf(player, week, day) != NONE;
+            int slot = slotOf(player, week, day);
+            return slot != NONE && hours[slot] != NONE;
         }
 
         int roundsOn(int week, int day) {
-            return isWeek(week) && day >= 0 && day < DAYS ? dayRounds[week * DAYS + day] : 0;
+            boolean isThere = week >= 0 && week < WEEKS && day >= 0 && day < DAYS;
+            return isThere ? dayRounds[week * DAYS + day] : 0;
         }
 
         /** 0 where there is no ROUND. */
         int valueOf(int player, int week, int day, int part) {
             int slot = slotOf(player, week, day);
-            return slot == NONE || !isPart(part) ? 0 : values[slot * COLUMNS + columnOf(part)];
+            int column = part == NONE ? ALL : part;
+            boolean isThere = slot != NONE && column >= 0 && column < COLUMNS;
+            return isThere ? values[slot * COLUMNS + column] : 0;
         }
 
         /** The VALUES of all ROUNDS of a DAY together. */
         int allOf(int week, int day, int part) {
-            boolean isThere = isWeek(week) && day >= 0 && day < DAYS && isPart(part);
-            return isThere ? dayValues[(week * DAYS + day) * COLUMNS + columnOf(part)] : 0;
-        }
-
-        private static int columnOf(int part) {
-            return part == NONE ? ALL : part;
+            int column = part == NONE ? ALL : part;
+            boolean isThere = week >= 0 && week < WEEKS && day >= 0 && day < DAYS
+                    && column >= 0 && column < COLUMNS;
+            return isThere ? dayValues[(week * DAYS + day) * COLUMNS + column] : 0;
         }
 
         /** The VALUES by NONE from DAY 0 to that one together. */
         int sumOf(int player, int week, int lastDay) {
             int sum = 0;
             for (int day = 0; day <= lastDay && day < DAYS; day++) {
-                sum += valueOf(player, week, day, NONE);
+                int slot = slotOf(player, week, day);
+                sum += slot == NONE ? 0 : values[slot * COLUMNS + ALL];
             }
             return sum;
         }
@@ -663,9 +667,10 @@ public final class LuckLinks {
 
     /** What a text told: the numbers of its RULES and the conditions of its "press". */
     static final class Law {
-        static final int NOT = -1;
+        /** Steps of conditions; the tighter one binds, the lower. */
+        static final int OR = -1;
         static final int AND = -2;
-        static final int OR = -3;
+        static final int NOT = -3;
         /** Numbers that conditions ask for are below it, so one int holds a whole comparison. */
         static final int NUMBERS = 10000;
         /** At most nine are open in one another, each with two that wait: far below this. */
@@ -817,44 +822,81 @@ public final class LuckLinks {
         private static final int SIGN = 3;
         private static final int DIGITS_AT_MOST = 4;
         private static final int WORDS = 6;
+        /** What waits in a condition is less what its step in the code is; a bracket has none. */
+        private static final int BRACKET = 0;
+        private static final int NO_JOIN = 0;
+        /** At most nine are open, and in each of them and outside two joins wait: far below this. */
+        private static final int WAITING = 64;
 
         private byte[] text = new byte[0];
-        private int length = 0;
         private Law law = new Law();
-        /** The token at hand: its kind, its first byte and the place behind its last one. */
-        private int kind = END;
-        private int start = 0;
-        private int end = 0;
+        /** The tokens: their kinds, first bytes and the places behind their last ones. */
+        private final int[] kinds = new int[TAPE + 1];
+        private final int[] starts = new int[TAPE + 1];
+        private final int[] ends = new int[TAPE + 1];
+        /** The token at hand. */
+        private int at = 0;
         /** What was taken last. */
         private int number = 0;
         private int part = 0;
+        /** "not", brackets and joins whose ends are still to come. */
+        private final int[] waiting = new int[WAITING];
+        private int waits = 0;
+        private int open = 0;
+        private int brackets = 0;
 
         /** The FAULT's place; NONE without. */
         int readLaw(byte[] bytes, int n, Law into) {
             text = bytes;
-            length = Math.min(n, bytes.length);
             law = into;
             law.clear();
-            end = 0;
-            step();
-            if (!readRules()) {
-                return start;
-            }
-            law.spreadWeights();
-            return NONE;
-        }
-
-        private boolean readRules() {
-            for (int i = 0; i < RULES; i++) {
-                if (kind == END) {
-                    return true;
+            at = 0;
+            split(Math.min(n, Math.min(bytes.length, TAPE)));
+            for (int i = 0; i <= RULES; i++) {
+                if (kinds[at] == END) {
+                    law.spreadWeights();
+                    return NONE;
                 }
-                if (!readRule() || !takeSign(';')) {
-                    return false;
+                if (i == RULES || !readRule() || !takeSign(';')) {
+                    return starts[at];
                 }
                 law.rules++;
             }
-            return kind == END;
+            return starts[at];
+        }
+
+        /** The last token is the END, at the text's length. */
+        private void split(int length) {
+            int place = 0;
+            int tokens = 0;
+            while (place < length && tokens < TAPE) {
+                int kind = kindOf(text[place]);
+                int start = place;
+                place++;
+                while (place < length && kind != SIGN && kind != END && kindOf(text[place]) == kind) {
+                    place++;
+                }
+                if (kind != END) {
+                    kinds[tokens] = kind;
+                    starts[tokens] = start;
+                    ends[tokens] = place;
+                    tokens++;
+                }
+            }
+            kinds[tokens] = END;
+            starts[tokens] = length;
+            ends[tokens] = length;
+        }
+
+        /** END for a blank; a byte that begins no token counts as a SIGN that nothing asks for. */
+        private static int kindOf(byte sign) {
+            if (sign == ' ' || sign == '\n') {
+                return END;
+            }
+            if (sign >= 'a' && sign <= 'z') {
+                return WORD;
+            }
+            return sign >= '0' && sign <= '9' ? DIGITS : SIGN;
         }
 
         private boolean readRule() {
@@ -918,41 +960,77 @@ public final class LuckLinks {
                 return false;
             }
             int strokes = isMore ? number : -number;
-            if (takeWord("if") && !readAny(0)) {
+            if (takeWord("if") && !readAny()) {
                 return false;
             }
             law.addPress(part, strokes);
             return true;
         }
 
-        private boolean readAny(int open) {
-            boolean isRead = readEach(open);
-            for (int i = 0; i < length && isRead && takeWord("or"); i++) {
-                isRead = readEach(open);
-                law.emit(Law.OR);
+        /** Emits each comparison at once, what joins or turns them when its end has come. */
+        private boolean readAny() {
+            waits = 0;
+            open = 0;
+            brackets = 0;
+            // Each turn takes a token at least.
+            for (int i = 0; i < TAPE; i++) {
+                if (open < OPEN && takeWord("not")) {
+                    await(-Law.NOT);
+                    open++;
+                } else if (open < OPEN && takeSign('(')) {
+                    await(BRACKET);
+                    open++;
+                    brackets++;
+                } else {
+                    if (!readComparison()) {
+                        return false;
+                    }
+                    endOne();
+                    int join = takeJoin();
+                    if (join == NO_JOIN) {
+                        emitDownTo(-Law.OR);
+                        return brackets == 0;
+                    }
+                    emitDownTo(join);
+                    await(join);
+                }
             }
-            return isRead;
+            return false;
         }
 
-        private boolean readEach(int open) {
-            boolean isRead = readOne(open);
-            for (int i = 0; i < length && isRead && takeWord("and"); i++) {
-                isRead = readOne(open);
-                law.emit(Law.AND);
+        private void await(int one) {
+            if (waits < WAITING) {
+                waiting[waits] = one;
+                waits++;
             }
-            return isRead;
         }
 
-        private boolean readOne(int open) {
-            if (open < OPEN && takeWord("not")) {
-                boolean isRead = readOne(open + 1);
-                law.emit(Law.NOT);
-                return isRead;
+        /** All that binds at least as tight as that, back to the bracket that is open. */
+        private void emitDownTo(int loosest) {
+            while (waits > 0 && waiting[waits - 1] >= loosest) {
+                waits--;
+                law.emit(-waiting[waits]);
+                open -= waiting[waits] == -Law.NOT ? 1 : 0;
             }
-            if (open < OPEN && takeSign('(')) {
-                return readAny(open + 1) && takeSign(')');
+        }
+
+        /** With a ONE each "not" ahead of it ends, and with a closing bracket one ONE more. */
+        private void endOne() {
+            emitDownTo(-Law.NOT);
+            while (brackets > 0 && waits > 0 && takeSign(')')) {
+                emitDownTo(-Law.OR);
+                waits--;
+                open--;
+                brackets--;
+                emitDownTo(-Law.NOT);
             }
-            return readComparison();
+        }
+
+        private int takeJoin() {
+            if (takeWord("or")) {
+                return -Law.OR;
+            }
+            return takeWord("and") ? -Law.AND : NO_JOIN;
         }
 
         private boolean readComparison() {
@@ -1022,73 +1100,41 @@ public final class LuckLinks {
         }
 
         private boolean takeWord(String word) {
-            if (kind != WORD || end - start != word.length()) {
+            int start = starts[at];
+            if (kinds[at] != WORD || ends[at] - start != word.length()) {
                 return false;
             }
-            for (int i = 0; i < word.length() && start + i < length; i++) {
+            for (int i = 0; i < word.length() && start + i < text.length; i++) {
                 if (text[start + i] != word.charAt(i)) {
                     return false;
                 }
             }
-            step();
+            at++;
             return true;
         }
 
         private boolean takeSign(char sign) {
-            if (kind != SIGN || text[start] != sign) {
+            if (kinds[at] != SIGN || starts[at] >= text.length || text[starts[at]] != sign) {
                 return false;
             }
-            step();
+            at++;
             return true;
         }
 
         private boolean takeNumber(int least, int most) {
-            if (kind != DIGITS || end - start > DIGITS_AT_MOST) {
+            if (kinds[at] != DIGITS || ends[at] - starts[at] > DIGITS_AT_MOST) {
                 return false;
             }
             int read = 0;
-            for (int i = start; i < end && i < length; i++) {
+            for (int i = starts[at]; i < ends[at] && i < text.length; i++) {
                 read = read * 10 + text[i] - '0';
             }
             if (read < least || read > most) {
                 return false;
             }
             number = read;
-            step();
+            at++;
             return true;
-        }
-
-        /** To the next token; a byte that begins none counts as a SIGN that nothing asks for. */
-        private void step() {
-            start = end;
-            while (start < length && (text[start] == ' ' || text[start] == '\n')) {
-                start++;
-            }
-            end = start;
-            if (start >= length) {
-                kind = END;
-            } else if (isLetter(text[start])) {
-                kind = WORD;
-                while (end < length && isLetter(text[end])) {
-                    end++;
-                }
-            } else if (isDigit(text[start])) {
-                kind = DIGITS;
-                while (end < length && isDigit(text[end])) {
-                    end++;
-                }
-            } else {
-                kind = SIGN;
-                end++;
-            }
-        }
-
-        private static boolean isLetter(byte sign) {
-            return sign >= 'a' && sign <= 'z';
-        }
-
-        private static boolean isDigit(byte sign) {
-            return sign >= '0' && sign <= '9';
         }
     }
 
