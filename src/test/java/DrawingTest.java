@@ -15,6 +15,8 @@ public final class DrawingTest {
         orderAndHours();
         hourRules();
         presses();
+        lawsOneByOne();
+        allCourses();
         behind();
         cuts();
         CHECK.end("DrawingTest");
@@ -242,6 +244,42 @@ public final class DrawingTest {
         press("day=0 and (hour=2 or hour=3 and (order=9 or order=3 and not (week=0 or course=0)))", 3, 0, true);
         press("day=0 and (hour=2 or hour=3 and (order=9 or order=3 and (week=0 or course=0)))", 3, 0, false);
         press("day<9999 and hour<0012", 3, 0, true);
+        press("day<0", 3, 0, false);
+        press("not day<0", 3, 0, true);
+        press("day<0 or day=0", 3, 0, true);
+        press("day=0 and day<0", 3, 0, false);
+    }
+
+    /** What the law ahead told of hours and presses is gone with it. */
+    private static void lawsOneByOne() {
+        LuckLinks x = withPlayers(2, 30, "hour tee 2 from 0;hour tee 3 from 0;press tee more 4;press long more 5 if day=0;");
+        x.run(0, 3);
+        CHECK.due(12, "tee", x.score(0, 0, 0, 0), 39);
+        CHECK.due(12, "long", x.score(0, 0, 0, 1), 35);
+        CHECK.due(12, "long on day 1", x.score(0, 0, 1, 1), 30);
+        for (int week = 1; week < 4; week++) {
+            x.week(week, 0);
+            CHECK.due(9, "law", Check.law(x, week < 3 ? "" : "press long more 6 if day=2;"), week < 3 ? 0 : 1);
+            x.run(week, 3);
+            CHECK.due(12, "tee in week " + week, x.score(0, week, 0, 0), 30);
+            CHECK.due(12, "long in week " + week, x.score(0, week, 0, 1), 30);
+            CHECK.due(12, "long on day 2", x.score(0, week, 2, 1), week < 3 ? 30 : 36);
+        }
+    }
+
+    private static void allCourses() {
+        LuckLinks x = new LuckLinks();
+        x.player(0, 0, 0, 0);
+        for (int course = 0; course < 6; course++) {
+            x.course(course, 10 + course, 20 + course, 30 + course);
+            x.week(course, course);
+            x.run(course, 1);
+        }
+        for (int course = 0; course < 6; course++) {
+            for (int part = 0; part < 4; part++) {
+                CHECK.due(12, "strokes of course " + course, x.score(0, course, 3, part), 10 * part + course);
+            }
+        }
     }
 
     private static void behind() {

@@ -146,6 +146,14 @@ public final class FormTest {
         span(x, -1, 5, -200, 175);
         Check.law(x, "weigh 0 0;weigh 4 3;");
         span(x, -1, 4, none, none);
+        LuckLinks z = withPlayers(2);
+        day(z, 0, 0, 20, 0);
+        day(z, 1, 0, 0, 8);
+        day(z, 1, 1, 0, 8);
+        day(z, 2, 0, 0, 6);
+        Check.law(z, "weigh 1 7;weigh 2 3;weigh 3 2;");
+        // OFF 10; -4, -4; -3 weigh 2, 3 and 7. Without week 0: -45/13; 1: -1/9; 2: -4/8.
+        span(z, -1, 3, -346, -11);
         LuckLinks y = withPlayers(3);
         day(y, 0, 0, 10, 10, 11);
         day(y, 1, 0, 10, 11, 10);
@@ -178,6 +186,14 @@ public final class FormTest {
         CHECK.due(22, "best(40)", x.best(40), 2);
         CHECK.due(22, "best(41)", x.best(41), -1);
         CHECK.due(22, "best(-1)", x.best(-1), -1);
+        LuckLinks many = withPlayers(3);
+        day(many, 0, 0, 10, 12, -1);
+        day(many, 0, 1, 10, 12, -1);
+        day(many, 0, 2, 10, 12, -1);
+        day(many, 1, 0, -1, 15, 12);
+        // 0: -1 of three rounds; 2: -3/2 of one.
+        CHECK.due(22, "best by means, not by sums", many.best(2), 2);
+        CHECK.due(22, "best(1)", many.best(1), 0);
         Check.law(x, "weigh 0 0;weigh 2 1;");
         CHECK.due(22, "best(2): no weight", x.best(2), -1);
         CHECK.due(22, "best(4): week 3 weighs nothing", x.best(4), 0);
@@ -249,7 +265,11 @@ public final class FormTest {
         }
         CHECK.due(24, "odds beside one without skill", x.odds(0, 5, 1), between);
         CHECK.due(24, "odds ahead of week 0: no skill at all", x.odds(0, 3, 0), 400000);
+        day(x, 0, 1, 10, 13, -1, -1);
+        day(x, 0, 2, 10, 13, -1, -1);
+        CHECK.due(24, "odds by skills of three rounds", x.odds(0, 3, 1), want);
         day(x, 5, 0, 99, 1, -1, -1);
+        // (-9/2 + 49) by four: 11 whole strokes.
         CHECK.due(24, "odds far behind", x.odds(0, 3, 6), 0);
         CHECK.due(24, "odds far ahead", x.odds(1, 3, 6), 1000000);
     }
@@ -293,6 +313,8 @@ public final class FormTest {
         CHECK.due(25, "need(1, 67)", x.need(1, 67), 2);
         CHECK.due(25, "need(1, 81)", x.need(1, 81), 2);
         CHECK.due(25, "need(1, 82)", x.need(1, 82), 3);
+        Check.law(x, "luck last 2;");
+        CHECK.due(25, "the 30th round", x.need(1, 99), 30);
         CHECK.due(25, "need(0, 50)", x.need(0, 50), -1);
         CHECK.due(25, "need(41, 50)", x.need(41, 50), -1);
         CHECK.due(25, "need(1, 0)", x.need(1, 0), -1);
@@ -362,6 +384,19 @@ public final class FormTest {
         x.round(1, 2, 0, 0);
         CHECK.due(27, "most", x.most(0, 1, 2), 3);
         CHECK.due(27, "most: all below 0 but neither", x.most(1, 2, 2), 0);
+        LuckLinks y = withPlayers(3);
+        // Alike: tee 3, long 2, last 2; short: 1 unlike.
+        y.round(0, 0, 0, 10 + 100 * 10 + 10000 * 10 + 1000000 * 10);
+        y.round(1, 0, 0, 11 + 100 * 11 + 10000 * 11 + 1000000 * 11);
+        y.round(2, 0, 0, 12 + 100 * 11 + 10000 * 11 + 1000000 * 10);
+        y.round(0, 4, 0, 10 + 100 * 10 + 10000 * 11 + 1000000 * 10);
+        y.round(1, 4, 0, 11 + 100 * 11 + 10000 * 10 + 1000000 * 11);
+        y.round(2, 4, 0, 12 + 100 * 12 + 10000 * 11 + 1000000 * 10);
+        CHECK.due(27, "most: the first part", y.most(0, 1, 39), 0);
+        CHECK.due(26, "tee", y.lasts(0, 0, 1, 39, 0), 3);
+        CHECK.due(26, "long", y.lasts(1, 0, 1, 39, 0), 2);
+        CHECK.due(26, "short", y.lasts(2, 0, 1, 39, 1), 1);
+        CHECK.due(26, "last", y.lasts(3, 0, 1, 39, 0), 2);
     }
 
     private static void halvesWrong() {
@@ -439,6 +474,14 @@ public final class FormTest {
         held(x, 5, 611 + 133 + 400, 800, 800 + 133 + 400, 800, 3);
         // In week 2 the latest week ahead is week 0: 13/6, 216; -7/3, -233. OFF: 5, -5.
         held(x, 2, 284 + 500 - 233, 1000, 284 + 267, 1000, 2);
+        day(x, 3, 0, 20, 30, -1, -1);
+        // The latest week ahead is the one just ahead: OFF in week 3: -5, 5; in week 2: 5, -5.
+        CHECK.due(31, "held(3, 2)", x.held(3, 2), 2000);
+        x = withPlayers(4);
+        day(x, 0, 0, 10, 11, 11, -1);
+        day(x, 0, 1, 20, 10, -1, -1);
+        day(x, 2, 0, 30, 20, -1, -1);
+        day(x, 5, 0, 10, -1, 12, 17);
         Check.law(x, "weigh 3 4;");
         // Week 0 is of AGE 5, week 2 of AGE 3: the same weights.
         held(x, 5, 611 + 133 + 400, 800, 800 + 133 + 400, 800, 3);

@@ -94,6 +94,10 @@ public final class HoursTest {
         // With week 3: 5 of 9 rounds; 3: 2 of 3: 1/3; 0: none of 2: -10/9.
         cost(x, 3, 5, 39, 3, 4);
         cost(x, 0, 5, 39, -5, 2);
+        // From 11 on: 1 of 6 rounds; WORTH 7.
+        cost(x, 3, 11, 0, 35, 6);
+        // From 1 on: 5 of 6 rounds, 1 of its 2; WORTH 19/3.
+        cost(x, 0, 1, 0, -38, 9);
         CHECK.due(33, "no day with both", x.cost(0, 5, 3, 3, 0), NO_WORTH);
         CHECK.due(33, "no day with both", x.cost(3, 5, 3, 3, 1), NO_WORTH);
         LuckLinks more = withPlayers(3);

@@ -112,6 +112,12 @@ public final class LawTest {
         fault("luck tee ", "00001;");
         fault("luck tee ", "99999999999999999999;");
         fault("luck tee ", "-1;");
+        fault("luck tee ", ";");
+        fault("luck", ";");
+        fault("", "duck tee 1;");
+        fault("", "lick tee 1;");
+        fault("luck ", "nee 1;");
+        fault("luck ", "toe 1;");
         fault("luck tee 1", "x;");
         fault("luck tee 1", ",");
         fault("luck tee 1\n\n", "\t;");
@@ -130,6 +136,25 @@ public final class LawTest {
     private static void faultsOfRules() {
         fault("drift tee ", "10;");
         fault("drift ", "1;");
+        fault("drift tee", ";");
+        fault("hour", ";");
+        fault("hour tee", ";");
+        fault("hour tee 1 from", ";");
+        fault("press", ";");
+        fault("press tee", ";");
+        fault("press tee less", ";");
+        fault("press tee less 1 if day", ";");
+        fault("press tee less 1 if day<", ";");
+        fault("press tee less 1 if not", ";");
+        fault("press tee less 1 if day<1 and", ";");
+        fault("cut", ";");
+        fault("cut 1", ";");
+        fault("prize", ";");
+        fault("prize 1", ";");
+        fault("points", ";");
+        fault("points 1", ";");
+        fault("weigh", ";");
+        fault("weigh 1", ";");
         fault("hour tee ", "21 from 1;");
         fault("hour tee 20 ", ";");
         fault("hour tee 20 ", "to 3;");

@@ -12,6 +12,7 @@ public final class TellingTest {
         weeks();
         rounds();
         roundsRoom();
+        roundsToTheLast();
         bets();
         seeds();
         giftsAndScores();
@@ -150,6 +151,25 @@ public final class TellingTest {
         CHECK.due(5, "count(2)", x.count(2), 1200);
         CHECK.due(5, "count(5)", x.count(5), 2);
         CHECK.due(5, "count(6)", x.count(6), 3);
+    }
+
+    /** A run that fills the room to the last round is let in. */
+    private static void roundsToTheLast() {
+        LuckLinks x = new LuckLinks();
+        for (int i = 0; i < 20; i++) {
+            x.player(0, 0, 0, 0);
+        }
+        x.course(1, 2, 3, 4);
+        for (int week = 0; week < 15; week++) {
+            x.week(week, 0);
+            CHECK.due(12, "run", x.run(week, 0xfffff), 80);
+        }
+        CHECK.due(12, "count(2)", x.count(2), 1200);
+        x.week(15, 0);
+        CHECK.due(12, "run beyond", x.run(15, 1), -1);
+        CHECK.due(5, "round beyond", x.round(0, 15, 0, 0), -1);
+        CHECK.due(5, "count(6)", x.count(6), 2);
+        CHECK.due(5, "count(5)", x.count(5), 0);
     }
 
     private static void bets() {
