@@ -22,6 +22,19 @@ final class Check {
         }
     }
 
+    /** So many players, one course of no strokes, and all weeks on it. */
+    static LuckLinks withPlayers(int many) {
+        LuckLinks x = new LuckLinks();
+        for (int i = 0; i < many; i++) {
+            x.player(0, 0, 0, 0);
+        }
+        x.course(0, 0, 0, 0);
+        for (int week = 0; week < 40; week++) {
+            x.week(week, 0);
+        }
+        return x;
+    }
+
     /** Feeds a text, blanks behind it up to the next twenty bytes. */
     static void feed(LuckLinks x, String text) {
         for (int at = 0; at < text.length(); at += 20) {

@@ -26,18 +26,6 @@ public final class FormTest {
         CHECK.end("FormTest");
     }
 
-    private static LuckLinks withPlayers(int many) {
-        LuckLinks x = new LuckLinks();
-        for (int i = 0; i < many; i++) {
-            x.player(0, 0, 0, 0);
-        }
-        x.course(0, 0, 0, 0);
-        for (int week = 0; week < 40; week++) {
-            x.week(week, 0);
-        }
-        return x;
-    }
-
     /** One round of each player on a day, all strokes on the first part; below 0: none. */
     private static void day(LuckLinks x, int week, int day, int... strokes) {
         for (int p = 0; p < strokes.length; p++) {
@@ -54,7 +42,7 @@ public final class FormTest {
     }
 
     private static void skills() {
-        LuckLinks x = withPlayers(3);
+        LuckLinks x = Check.withPlayers(3);
         x.round(0, 0, 0, 10 + 100 * 7);
         x.round(1, 0, 0, 11 + 100 * 5);
         x.round(2, 0, 0, 11 + 100 * 5);
@@ -79,7 +67,7 @@ public final class FormTest {
     }
 
     private static void skillsByWeights() {
-        LuckLinks x = withPlayers(2);
+        LuckLinks x = Check.withPlayers(2);
         day(x, 0, 0, 10, 20);
         day(x, 1, 0, 20, 10);
         day(x, 1, 1, 20, 12);
@@ -106,7 +94,7 @@ public final class FormTest {
     }
 
     private static void skillsWrong() {
-        LuckLinks x = withPlayers(1);
+        LuckLinks x = Check.withPlayers(1);
         day(x, 0, 0, 10);
         skill(x, 0, -1, 1, 0, 1);
         skill(x, 1, -1, 1, NO_SKILL, NO_SKILL);
@@ -126,7 +114,7 @@ public final class FormTest {
 
     private static void spans() {
         int none = -1000000;
-        LuckLinks x = withPlayers(2);
+        LuckLinks x = Check.withPlayers(2);
         day(x, 0, 0, 10, 20);
         day(x, 0, 1, 10, 11);
         span(x, -1, 1, none, none);
@@ -146,7 +134,7 @@ public final class FormTest {
         span(x, -1, 5, -200, 175);
         Check.law(x, "weigh 0 0;weigh 4 3;");
         span(x, -1, 4, none, none);
-        LuckLinks z = withPlayers(2);
+        LuckLinks z = Check.withPlayers(2);
         day(z, 0, 0, 20, 0);
         day(z, 1, 0, 0, 8);
         day(z, 1, 1, 0, 8);
@@ -154,7 +142,7 @@ public final class FormTest {
         Check.law(z, "weigh 1 7;weigh 2 3;weigh 3 2;");
         // OFF 10; -4, -4; -3 weigh 2, 3 and 7. Without week 0: -45/13; 1: -1/9; 2: -4/8.
         span(z, -1, 3, -346, -11);
-        LuckLinks y = withPlayers(3);
+        LuckLinks y = Check.withPlayers(3);
         day(y, 0, 0, 10, 10, 11);
         day(y, 1, 0, 10, 11, 10);
         // OFF: -1/3 each: what is behind the point goes.
@@ -172,7 +160,7 @@ public final class FormTest {
     }
 
     private static void bests() {
-        LuckLinks x = withPlayers(4);
+        LuckLinks x = Check.withPlayers(4);
         CHECK.due(22, "best(40) without rounds", x.best(40), -1);
         day(x, 1, 0, -1, 10, 10, 11);
         CHECK.due(22, "best(1)", x.best(1), -1);
@@ -186,7 +174,7 @@ public final class FormTest {
         CHECK.due(22, "best(40)", x.best(40), 2);
         CHECK.due(22, "best(41)", x.best(41), -1);
         CHECK.due(22, "best(-1)", x.best(-1), -1);
-        LuckLinks many = withPlayers(3);
+        LuckLinks many = Check.withPlayers(3);
         day(many, 0, 0, 10, 12, -1);
         day(many, 0, 1, 10, 12, -1);
         day(many, 0, 2, 10, 12, -1);
@@ -200,7 +188,7 @@ public final class FormTest {
     }
 
     private static void years() {
-        LuckLinks x = withPlayers(3);
+        LuckLinks x = Check.withPlayers(3);
         CHECK.due(23, "years without rounds", x.years(0), 0);
         day(x, 4, 0, 20, 10, -1);
         CHECK.due(23, "years(1): ahead of weeks 5 to 40", x.years(1), 36);
@@ -215,16 +203,16 @@ public final class FormTest {
         CHECK.due(23, "years(2)", x.years(2), 0);
         CHECK.due(23, "years(3)", x.years(3), -1);
         CHECK.due(23, "years(-1)", x.years(-1), -1);
-        LuckLinks all = withPlayers(1);
+        LuckLinks all = Check.withPlayers(1);
         day(all, 0, 0, 1);
         CHECK.due(23, "years: all of them", all.years(0), 40);
-        LuckLinks last = withPlayers(1);
+        LuckLinks last = Check.withPlayers(1);
         day(last, 39, 0, 1);
         CHECK.due(23, "years: ahead of week 40", last.years(0), 1);
     }
 
     private static void odds() {
-        LuckLinks x = withPlayers(3);
+        LuckLinks x = Check.withPlayers(3);
         // Without luck nobody is above one of the same skill.
         CHECK.due(24, "odds of one alone", x.odds(0, 1, 0), 1000000);
         CHECK.due(24, "odds of two", x.odds(0, 3, 0), 0);
@@ -240,7 +228,7 @@ public final class FormTest {
     }
 
     private static void oddsBySkill() {
-        LuckLinks x = withPlayers(4);
+        LuckLinks x = Check.withPlayers(4);
         day(x, 0, 0, 10, 13, -1, -1);
         Check.law(x, "luck long 2;");
         // The lot: 200000 each from -2 to 2. SKILL: -1 (-3/2 cut), 1 (3/2 cut), none: 0.
@@ -275,7 +263,7 @@ public final class FormTest {
     }
 
     private static void oddsWrong() {
-        LuckLinks x = withPlayers(3);
+        LuckLinks x = Check.withPlayers(3);
         CHECK.due(24, "odds of one who isn't of it", x.odds(2, 3, 0), -1);
         CHECK.due(24, "odds of no player", x.odds(3, 8, 0), -1);
         CHECK.due(24, "odds of player -1", x.odds(-1, 7, 0), -1);
@@ -349,7 +337,7 @@ public final class FormTest {
     }
 
     private static void lasts() {
-        LuckLinks x = withPlayers(5);
+        LuckLinks x = Check.withPlayers(5);
         lasts(x, -1, new int[] {0, 1, 2}, 0, 0, 0);
         day(x, 0, 0, 10, 11, 12, 13, 9);
         day(x, 1, 0, 10, 12, 11, 11, -1);
@@ -371,7 +359,7 @@ public final class FormTest {
     }
 
     private static void most() {
-        LuckLinks x = withPlayers(2);
+        LuckLinks x = Check.withPlayers(2);
         CHECK.due(27, "most without rounds", x.most(0, 1, 1), 0);
         x.round(0, 0, 0, 10 + 100 * 10 + 10000 * 10 + 1000000 * 10);
         x.round(1, 0, 0, 11 + 100 * 10 + 10000 * 11 + 1000000 * 11);
@@ -384,7 +372,7 @@ public final class FormTest {
         x.round(1, 2, 0, 0);
         CHECK.due(27, "most", x.most(0, 1, 2), 3);
         CHECK.due(27, "most: all below 0 but neither", x.most(1, 2, 2), 0);
-        LuckLinks y = withPlayers(3);
+        LuckLinks y = Check.withPlayers(3);
         // Alike: tee 3, long 2, last 2; short: 1 unlike.
         y.round(0, 0, 0, 10 + 100 * 10 + 10000 * 10 + 1000000 * 10);
         y.round(1, 0, 0, 11 + 100 * 11 + 10000 * 11 + 1000000 * 11);
@@ -400,7 +388,7 @@ public final class FormTest {
     }
 
     private static void halvesWrong() {
-        LuckLinks x = withPlayers(2);
+        LuckLinks x = Check.withPlayers(2);
         int[][] wrong = {{0, 0, 1}, {1, 1, 1}, {2, 1, 3}, {0, 2, 1}, {-1, 1, 2}, {0, 1, 40}, {0, 40, 40}, {39, 40, 40},
             {Integer.MIN_VALUE, 0, 1}};
         for (int[] w : wrong) {
@@ -421,7 +409,7 @@ public final class FormTest {
     }
 
     private static void right() {
-        LuckLinks x = withPlayers(5);
+        LuckLinks x = Check.withPlayers(5);
         day(x, 0, 0, 10, 12, 20, 30, 50);
         day(x, 0, 1, 11, 12, 24, 30, -1);
         right(x, 0, 2, -1, -1);
@@ -456,7 +444,7 @@ public final class FormTest {
     }
 
     private static void held() {
-        LuckLinks x = withPlayers(4);
+        LuckLinks x = Check.withPlayers(4);
         held(x, 0, 0, 0, 0, 0, 0);
         day(x, 0, 0, 10, 11, 11, -1);
         // OFF: -66, 33, 33 hundredths.
@@ -477,7 +465,7 @@ public final class FormTest {
         day(x, 3, 0, 20, 30, -1, -1);
         // The latest week ahead is the one just ahead: OFF in week 3: -5, 5; in week 2: 5, -5.
         CHECK.due(31, "held(3, 2)", x.held(3, 2), 2000);
-        x = withPlayers(4);
+        x = Check.withPlayers(4);
         day(x, 0, 0, 10, 11, 11, -1);
         day(x, 0, 1, 20, 10, -1, -1);
         day(x, 2, 0, 30, 20, -1, -1);

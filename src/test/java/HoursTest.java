@@ -19,18 +19,6 @@ public final class HoursTest {
         CHECK.end("HoursTest");
     }
 
-    private static LuckLinks withPlayers(int many) {
-        LuckLinks x = new LuckLinks();
-        for (int i = 0; i < many; i++) {
-            x.player(0, 0, 0, 0);
-        }
-        x.course(0, 0, 0, 0);
-        for (int week = 0; week < 40; week++) {
-            x.week(week, 0);
-        }
-        return x;
-    }
-
     private static void round(LuckLinks x, int player, int week, int day, int hour, int strokes) {
         CHECK.due(5, "round", x.round(player, week, 12 * day + hour, strokes * 100) >= 0, true);
     }
@@ -42,7 +30,7 @@ public final class HoursTest {
     }
 
     private static LuckLinks withHours() {
-        LuckLinks x = withPlayers(4);
+        LuckLinks x = Check.withPlayers(4);
         round(x, 0, 0, 0, 0, 10);
         round(x, 1, 0, 0, 5, 14);
         round(x, 2, 0, 0, 5, 15);
@@ -73,7 +61,7 @@ public final class HoursTest {
         round(x, 0, 3, 0, 11, 90);
         worth(x, 11, 3, 3, -9, 1);
         worth(x, 11, 0, 3, 3, 5);
-        LuckLinks alike = withPlayers(2);
+        LuckLinks alike = Check.withPlayers(2);
         round(alike, 0, 0, 0, 0, 50);
         round(alike, 1, 0, 0, 1, 50);
         worth(alike, 1, 0, 0, 0, 1);
@@ -100,7 +88,7 @@ public final class HoursTest {
         cost(x, 0, 1, 0, -38, 9);
         CHECK.due(33, "no day with both", x.cost(0, 5, 3, 3, 0), NO_WORTH);
         CHECK.due(33, "no day with both", x.cost(3, 5, 3, 3, 1), NO_WORTH);
-        LuckLinks more = withPlayers(3);
+        LuckLinks more = Check.withPlayers(3);
         round(more, 0, 0, 0, 0, 50);
         round(more, 1, 0, 0, 1, 60);
         cost(more, 2, 1, 0, 0, 1);
@@ -135,7 +123,7 @@ public final class HoursTest {
     }
 
     private static void pressed() {
-        LuckLinks x = withPlayers(3);
+        LuckLinks x = Check.withPlayers(3);
         pressed(x, 0, 0, 0, 1);
         week(x, 0, 50, 50, 50);
         pressed(x, 0, 0, 0, 1);
@@ -162,7 +150,7 @@ public final class HoursTest {
     }
 
     private static void manyWeeks() {
-        LuckLinks x = withPlayers(2);
+        LuckLinks x = Check.withPlayers(2);
         x.player(0, 0, 0, 0);
         for (int week = 0; week < 40; week++) {
             week(x, week, 51, 51, 51, 50);
@@ -181,7 +169,7 @@ public final class HoursTest {
     }
 
     private static void other() {
-        LuckLinks x = withPlayers(4);
+        LuckLinks x = Check.withPlayers(4);
         other(x, -1, -1, -1);
         week(x, 0, 50, 50, 50);
         other(x, -1, -1, -1);
@@ -205,7 +193,7 @@ public final class HoursTest {
 
     /** Unlike numbers of weeks: parts count, not rows. */
     private static void otherOfMany() {
-        LuckLinks x = withPlayers(3);
+        LuckLinks x = Check.withPlayers(3);
         for (int day = 0; day < 4; day++) {
             round(x, 0, 0, day, 0, day == 3 ? 40 : 50);
             round(x, 1, 0, day, 0, 50);
@@ -236,7 +224,7 @@ public final class HoursTest {
     }
 
     private static void beside() {
-        LuckLinks x = withPlayers(4);
+        LuckLinks x = Check.withPlayers(4);
         round(x, 0, 0, 0, 3, 10);
         beside(x, 0, NO_MEAN, NO_MEAN);
         round(x, 1, 0, 0, 3, 12);

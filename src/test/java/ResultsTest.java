@@ -19,19 +19,6 @@ public final class ResultsTest {
         CHECK.end("ResultsTest");
     }
 
-    /** So many players, one course, weeks 0 to 9 on it. */
-    private static LuckLinks withPlayers(int many) {
-        LuckLinks x = new LuckLinks();
-        for (int i = 0; i < many; i++) {
-            x.player(0, 0, 0, 0);
-        }
-        x.course(0, 0, 0, 0);
-        for (int week = 0; week < 10; week++) {
-            x.week(week, 0);
-        }
-        return x;
-    }
-
     /** One round of each player on a day, all strokes on the last part; below 0: none. */
     private static void day(LuckLinks x, int week, int day, int... strokes) {
         for (int p = 0; p < strokes.length; p++) {
@@ -42,7 +29,7 @@ public final class ResultsTest {
     }
 
     private static void places() {
-        LuckLinks x = withPlayers(5);
+        LuckLinks x = Check.withPlayers(5);
         CHECK.due(15, "place without rounds", x.place(0, 0), -1);
         day(x, 0, 0, 10, 12, 10, 9, -1);
         int[] want = {2, 4, 2, 1, -1};
@@ -67,7 +54,7 @@ public final class ResultsTest {
     }
 
     private static void won() {
-        LuckLinks x = withPlayers(6);
+        LuckLinks x = Check.withPlayers(6);
         day(x, 0, 0, 5, 6, 6, 6, 8, -1);
         day(x, 2, 0, 9, 9, 9, 9, 9, 1);
         day(x, 3, 0, 7, 7, -1, -1, -1, -1);
@@ -96,7 +83,7 @@ public final class ResultsTest {
     }
 
     private static void wonWrong() {
-        LuckLinks x = withPlayers(1);
+        LuckLinks x = Check.withPlayers(1);
         CHECK.due(16, "won of no player", x.won(1, 0, 0, 0), -1);
         CHECK.due(16, "won of player -1", x.won(-1, 0, 0, 0), -1);
         CHECK.due(16, "won from -1", x.won(0, -1, 0, 0), -1);
@@ -104,14 +91,14 @@ public final class ResultsTest {
         CHECK.due(16, "won from 2 to 1", x.won(0, 2, 1, 0), -1);
         CHECK.due(16, "won, what 2", x.won(0, 0, 0, 2), -1);
         CHECK.due(16, "won, what -1", x.won(0, 0, 0, -1), -1);
-        LuckLinks full = withPlayers(20);
+        LuckLinks full = Check.withPlayers(20);
         day(full, 0, 0, new int[20]);
         Check.law(full, "prize 20 100;prize 1 60;");
         CHECK.due(16, "all twenty alike", full.won(19, 0, 0, 0), 8);
     }
 
     private static void cuts() {
-        LuckLinks x = withPlayers(5);
+        LuckLinks x = Check.withPlayers(5);
         day(x, 0, 0, 10, 11, 12, 13, 14);
         day(x, 0, 1, 10, 10, 9, 9, -1);
         day(x, 0, 2, 10, -1, -1, 5, -1);
@@ -146,7 +133,7 @@ public final class ResultsTest {
     }
 
     private static void luck() {
-        LuckLinks x = withPlayers(3);
+        LuckLinks x = Check.withPlayers(3);
         day(x, 0, 0, 10, 13, -1);
         luck(x, -1, 0, 0, -1, -1);
         day(x, 0, 1, 12, -1, -1);
@@ -169,7 +156,7 @@ public final class ResultsTest {
     }
 
     private static void luckWrong() {
-        LuckLinks x = withPlayers(2);
+        LuckLinks x = Check.withPlayers(2);
         day(x, 0, 0, 10, 13);
         day(x, 0, 1, 10, 14);
         CHECK.due(18, "luck", x.luck(-1, 0, 0, 0), 1);
@@ -180,7 +167,7 @@ public final class ResultsTest {
         CHECK.due(18, "luck from 1 to 0", x.luck(-1, 1, 0, 0), -1);
         CHECK.due(18, "luck, what 2", x.luck(-1, 0, 0, 2), -1);
         CHECK.due(18, "luck, what -1", x.luck(-1, 0, 0, -1), -1);
-        LuckLinks one = withPlayers(1);
+        LuckLinks one = Check.withPlayers(1);
         day(one, 0, 0, 10);
         day(one, 0, 1, 12);
         CHECK.due(18, "no couples of unlike players", one.luck(-1, 0, 0, 0), -1);
@@ -194,7 +181,7 @@ public final class ResultsTest {
     }
 
     private static void back() {
-        LuckLinks x = withPlayers(5);
+        LuckLinks x = Check.withPlayers(5);
         day(x, 0, 0, 10, 20, 11, 11, 1);
         day(x, 0, 1, 14, 10, 12, 13, -1);
         // Those of day 0 and 1: 10, 20, 11, 11 (52) and 14, 10, 12, 13 (49); player 4 isn't of them.
@@ -219,7 +206,7 @@ public final class ResultsTest {
     }
 
     private static void backWrong() {
-        LuckLinks x = withPlayers(2);
+        LuckLinks x = Check.withPlayers(2);
         int none = -1000000000;
         CHECK.due(19, "back of day 3", x.back(3, 1, 0, 0, 0), none);
         CHECK.due(19, "back of day -1", x.back(-1, 1, 0, 0, 0), none);
@@ -233,7 +220,7 @@ public final class ResultsTest {
     }
 
     private static void lists() {
-        LuckLinks x = withPlayers(4);
+        LuckLinks x = Check.withPlayers(4);
         Check.law(x, "points 1 10;points 2 6;points 3 3;");
         day(x, 0, 0, 5, 4, -1, -1);
         day(x, 1, 0, -1, -1, 5, 4);
@@ -258,7 +245,7 @@ public final class ResultsTest {
     }
 
     private static void lines() {
-        LuckLinks x = withPlayers(5);
+        LuckLinks x = Check.withPlayers(5);
         Check.law(x, "points 1 10;points 2 9;points 3 5;points 4 1;");
         day(x, 2, 0, 4, 9, 5, 6, 7);
         day(x, 3, 0, 9, 4, 7, 6, 5);
@@ -280,7 +267,7 @@ public final class ResultsTest {
         // Of week 3 alone the even ones bring nobody a point: the least number is the first.
         CHECK.due(30, "weeks without an even one", x.line(1, 3, 3, 0), 1);
         CHECK.due(30, "weeks without an even one", x.line(1, 3, 3, 2), 0);
-        LuckLinks y = withPlayers(3);
+        LuckLinks y = Check.withPlayers(3);
         Check.law(y, "points 1 10;points 2 9;");
         day(y, 0, 0, 5, 6, 7);
         day(y, 0, 1, 5, 5, 9);
