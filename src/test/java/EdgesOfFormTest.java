@@ -31,6 +31,7 @@ public final class EdgesOfFormTest {
         oddsOfTheMost();
         needsAsked();
         needsAtLeast();
+        needsOfTheMost();
         needsLesserSum();
         needsUpToThirty();
         lastsAsked();
@@ -424,6 +425,9 @@ public final class EdgesOfFormTest {
         LuckLinks x = new LuckLinks();
         CHECK.range(25, "need of d", d -> x.need(d, 100), 1, 40, -1);
         CHECK.range(25, "need of a part", part -> x.need(1, part), 1, 100, -1);
+        // With luck he who isn't better has the lesser sum at times, too.
+        Check.law(x, "luck tee 9;");
+        CHECK.range(25, "need of d with luck", d -> x.need(d, 1), 1, 40, -1);
     }
 
     /** "by at least so many hundredths". */
@@ -441,6 +445,53 @@ public final class EdgesOfFormTest {
         CHECK.due(25, "never all of them", x.need(4, 100), -1);
         Check.law(x, "");
         CHECK.due(25, "no luck: all at once", x.need(1, 100), 1);
+        Check.law(x, "luck tee 3;luck last 2;");
+        CHECK.due(25, "just 900,000 after 24 rounds", x.need(1, 90), 24);
+        Check.law(x, "luck tee 5;luck last 4;");
+        CHECK.due(25, "819,999 after 8 rounds", x.need(2, 82), 9);
+        Check.law(x, "luck tee 9;luck last 6;");
+        CHECK.due(25, "729,999 after 12 rounds", x.need(2, 73), 13);
+    }
+
+    /** "(each product by 1,000,000, cut)", with the widest lot, too. */
+    private static void needsOfTheMost() {
+        LuckLinks x = new LuckLinks();
+        Check.law(x, "luck tee 9;luck long 9;luck short 9;luck last 9;");
+        int[] parts = {1, 51, 55, 60, 62, 63, 64, 75, 85, 95, 98, 99, 100};
+        for (int part : parts) {
+            for (int d = 1; d <= 4; d++) {
+                CHECK.due(25, "need(" + d + ", " + part + ")", x.need(d, part), needOf(widestLot(), d, part));
+            }
+            CHECK.due(25, "need(40, " + part + ")", x.need(40, part), needOf(widestLot(), 40, part));
+        }
+    }
+
+    /** All differences one by one, without any short cut. */
+    private static int needOf(long[] lot, int d, int part) {
+        long[] step = new long[2 * lot.length - 1];
+        for (int a = 0; a < lot.length; a++) {
+            for (int b = 0; b < lot.length; b++) {
+                step[lot.length - 1 + a - b] += lot[a] * lot[b] / 1000000;
+            }
+        }
+        long[] gap = step;
+        for (int rounds = 1; rounds <= 30; rounds++) {
+            long lesser = 0;
+            for (int i = 0; i < gap.length; i++) {
+                lesser += i - gap.length / 2 > -rounds * d ? gap[i] : 0;
+            }
+            if (lesser >= part * 10000L) {
+                return rounds;
+            }
+            long[] next = new long[gap.length + step.length - 1];
+            for (int i = 0; i < gap.length; i++) {
+                for (int one = 0; one < step.length && gap[i] > 0; one++) {
+                    next[i + one] += gap[i] * step[one] / 1000000;
+                }
+            }
+            gap = next;
+        }
+        return -1;
     }
 
     /** "has the lesser sum": alike isn't lesser. */

@@ -31,6 +31,9 @@ public final class EdgesOfLawTest {
         lastOneHolds();
         allHoursAndPressesDo();
         withoutRules();
+        nothingLeftOfOtherLaws();
+        nothingLeftOfAFault();
+        pressesBesideOthers();
         CHECK.end("EdgesOfLawTest");
     }
 
@@ -489,5 +492,84 @@ public final class EdgesOfLawTest {
         x.week(0, 0);
         x.run(0, 1);
         CHECK.due(12, "no hour, no press, no luck", x.score(0, 0, 0, 0), 30);
+    }
+
+    private static final String OF_ALL_KINDS = "drift tee 9;luck tee 9;cut 0 1;cut 2 3;prize 1 4;prize 20 4;points 1 5;points 20 5;"
+            + "weigh 0 6;weigh 39 7;hour long 8 from 0;press short more 9 if day<9;press last more 9;";
+
+    /** That a law holds which tells of the drift of the last part alone and of 2 strokes more on the second. */
+    private static void onlyFewRules(LuckLinks x, String why) {
+        for (int what = 0; what <= 200; what++) {
+            int want = what == 3 || what == 200 ? 2 : what >= 100 && what < 140 ? 1 : 0;
+            if (x.rule(what) != -1 || what == 200) {
+                CHECK.due(11, why + ": rule(" + what + ")", x.rule(what), want);
+            }
+        }
+        x.course(30, 30, 30, 30);
+        x.player(0, 0, 0, 0);
+        x.player(1, 0, 0, 0);
+        x.week(0, 0);
+        CHECK.due(12, why + ": no cut", x.run(0, 3), 8);
+        for (int day = 0; day < 4; day++) {
+            CHECK.due(12, why + ": no luck", x.score(0, 0, day, 0), 30);
+            CHECK.due(12, why + ": no hour, but a press", x.score(0, 0, day, 1), 32);
+            CHECK.due(12, why + ": no press", x.score(0, 0, day, 2), 30);
+        }
+    }
+
+    /** "Without: 0, no cut.": however many laws there were ahead. */
+    private static void nothingLeftOfOtherLaws() {
+        String few = "drift last 2;press long more 2;";
+        for (int between = 0; between < 4; between++) {
+            LuckLinks x = right(OF_ALL_KINDS, 13);
+            for (int i = 0; i < between; i++) {
+                CHECK.due(9, "no rules", x.law(0), 0);
+            }
+            CHECK.due(9, few, Check.law(x, few), 2);
+            onlyFewRules(x, between + " laws between");
+        }
+        LuckLinks y = right(OF_ALL_KINDS, 13);
+        CHECK.due(9, "all kinds once more", Check.law(y, OF_ALL_KINDS), 13);
+        CHECK.due(9, few, Check.law(y, few), 2);
+        onlyFewRules(y, "twice");
+    }
+
+    /** "NONE: a FAULT (the one there was stays)": nor does the next law keep any of what was read ahead of it. */
+    private static void nothingLeftOfAFault() {
+        String few = "drift last 2;press long more 2;";
+        String[] begun = {"!", "press tee more 1 if day=9 and (", "press tee more 1 if (day=9 or (not (", "hour long 8",
+            "press long less 9 if " + "not ".repeat(9), "press long less 9 if " + "(".repeat(9) + "day=9", "press long less 9 if not"};
+        for (String rest : begun) {
+            LuckLinks x = new LuckLinks();
+            CHECK.due(9, OF_ALL_KINDS + rest, Check.law(x, OF_ALL_KINDS + rest), -1);
+            CHECK.due(9, few, Check.law(x, few), 2);
+            onlyFewRules(x, "behind " + rest);
+            LuckLinks y = new LuckLinks();
+            CHECK.due(9, few, Check.law(y, few), 2);
+            CHECK.due(9, OF_ALL_KINDS + rest, Check.law(y, OF_ALL_KINDS + rest), -1);
+            onlyFewRules(y, "ahead of " + rest);
+            // Nothing is open any more, and the conditions told next are as they stand.
+            String nine = "press tee more 4 if " + "(not ".repeat(4) + "(day=1)" + ")".repeat(4) + ";";
+            CHECK.due(9, nine, Check.law(y, nine), 1);
+            y.week(1, 0);
+            y.run(1, 3);
+            for (int day = 0; day < 4; day++) {
+                CHECK.due(12, "day " + day + " behind " + rest, y.score(0, 1, day, 0), day == 1 ? 34 : 30);
+            }
+        }
+    }
+
+    /** Each "press" holds by its own condition, and one without holds always, wherever it stands. */
+    private static void pressesBesideOthers() {
+        LuckLinks x = Check.withPlayers(1);
+        Check.law(x, "press tee more 1 if day=3;press long more 2;press short more 3 if day=0;press last more 4;"
+                + "press tee more 5;press long more 6 if not day<2;press short more 7 if day=1 or day=2;press last less 1 if day=9;");
+        x.run(0, 1);
+        for (int day = 0; day < 4; day++) {
+            CHECK.due(12, "tee on day " + day, x.score(0, 0, day, 0), day == 3 ? 6 : 5);
+            CHECK.due(12, "long on day " + day, x.score(0, 0, day, 1), day < 2 ? 2 : 8);
+            CHECK.due(12, "short on day " + day, x.score(0, 0, day, 2), day == 0 ? 3 : day == 3 ? 0 : 7);
+            CHECK.due(12, "last on day " + day, x.score(0, 0, day, 3), 4);
+        }
     }
 }

@@ -34,6 +34,7 @@ public final class EdgesOfTellingTest {
         imagesUpToThree();
         restoresOfImagesThereAre();
         imagesOfNothingAndOfAll();
+        imagesOfOtherThings();
         countsAsked();
         allCallsUpToTheLast();
         CHECK.end("EdgesOfTellingTest");
@@ -562,6 +563,51 @@ public final class EdgesOfTellingTest {
         CHECK.due(38, "full again", x.course(0, 0, 0, 0), -1);
         CHECK.due(38, "full again", x.round(0, 0, 0, 0), -1);
         CHECK.due(38, "reason 1", x.count(6), 3);
+    }
+
+    /** "All is as in an IMAGE", where other things of the same numbers were told in between. */
+    private static void imagesOfOtherThings() {
+        LuckLinks x = new LuckLinks();
+        Check.law(x, "luck last 9;");
+        x.image();
+        x.player(1, 2, 3, 4);
+        x.course(10, 20, 30, 31);
+        x.week(0, 0);
+        x.week(1, 0);
+        x.round(0, 1, 5, 8070605);
+        x.bet(0, 1, 50);
+        x.seed(5);
+        x.image();
+        CHECK.due(38, "nothing", x.restore(0), true);
+        x.player(-5, -6, -7, -8);
+        x.course(50, 51, 52, 53);
+        x.week(1, 0);
+        x.week(2, 0);
+        x.round(0, 1, 7, 2);
+        x.round(0, 1, 12, 3);
+        x.bet(0, 1, 60);
+        x.seed(6);
+        CHECK.due(38, "all but that", x.restore(1), true);
+        int[] want = {5, 6, 7, 8, 5};
+        for (int part = 0; part < 5; part++) {
+            CHECK.due(38, "the round by " + part, x.score(0, 1, 0, part), want[part]);
+        }
+        CHECK.due(38, "not the round on the next day", x.score(0, 1, 1, -1), -1);
+        CHECK.due(38, "the bet", x.held(1, 1), 50);
+        CHECK.due(38, "not the week", x.count(12), -1);
+        CHECK.due(38, "one player", x.count(0), 1);
+        CHECK.due(38, "one course", x.count(1), 1);
+        CHECK.due(38, "one round", x.count(2), 1);
+        CHECK.due(38, "its number", x.round(0, 1, 12, 0), 1);
+        CHECK.due(12, "its week", x.run(0, 1), 4);
+        long z = 5;
+        for (int i = 0; i < 8; i++) {
+            z = z * 6364136223846793005L + 1442695040888963407L;
+        }
+        int[] drawn = {11, 22, 33, 35 + (int) ((z >>> 33) % 19) - 9};
+        for (int part = 0; part < 4; part++) {
+            CHECK.due(38, "drawn by gift, course and z, part " + part, x.score(0, 0, 0, part), drawn[part]);
+        }
     }
 
     /** "0 PLAYERS, .. 5 to 7 REFUSED by reason, 10 + w the COURSE of WEEK w (NONE). NONE for others." */
