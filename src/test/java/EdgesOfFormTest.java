@@ -17,6 +17,7 @@ public final class EdgesOfFormTest {
         spansAsked();
         spansThatLeaveNoWeight();
         spansOfTwoWeeks();
+        spansAheadOfAWeek();
         spansCut();
         bestAsked();
         bestOfSeveral();
@@ -204,6 +205,25 @@ public final class EdgesOfFormTest {
         Check.day(alike, 0, 0, 10, 20);
         Check.day(alike, 1, 0, 10, 20);
         span(alike, 2, -500, -500);
+    }
+
+    /** "one of those WEEKS": only weeks ahead are left out, not that week nor those behind it. */
+    private static void spansAheadOfAWeek() {
+        LuckLinks x = Check.withPlayers(2);
+        int[] others = {12, 16, 30, 90, 10};
+        for (int week = 0; week < 5; week++) {
+            Check.day(x, week, 0, 10, others[week]);
+        }
+        Check.day(x, 39, 0, 10, -1);
+        // OFF -1, -3, -10, -40, 0, and 0 in week 39.
+        span(x, 2, -300, -100);
+        span(x, 3, -650, -200);
+        span(x, 4, -1766, -466);
+        span(x, 5, -1350, -350);
+        Check.law(x, "weigh 0 7;weigh 1 1;weigh 3 5;");
+        span(x, 2, -300, -100);
+        // Ages 3, 2, 1: weights 5, 1, 1.
+        span(x, 3, -650, -133);
     }
 
     /** "in hundredths (cut; ..)": what is behind them goes, below 0, too. */
@@ -464,6 +484,11 @@ public final class EdgesOfFormTest {
             }
             CHECK.due(25, "need(40, " + part + ")", x.need(40, part), needOf(widestLot(), 40, part));
         }
+        // The farthest differences decide: what is 102 strokes apart and more.
+        Check.law(x, "luck tee 6;luck long 5;luck short 1;");
+        CHECK.due(25, "need(1, 70)", x.need(1, 70), 27);
+        Check.law(x, "luck tee 7;luck long 2;luck short 2;");
+        CHECK.due(25, "need(1, 71)", x.need(1, 71), 23);
     }
 
     /** All differences one by one, without any short cut. */
@@ -603,6 +628,21 @@ public final class EdgesOfFormTest {
         unlike.round(0, 1, 0, 1010101);
         unlike.round(1, 1, 0, 0);
         CHECK.due(27, "all unlike: the least", unlike.most(0, 1, 1), 0);
+        for (int part = 0; part < 4; part++) {
+            // One part alike on each day counts 0, the others -1.
+            LuckLinks x = Check.withPlayers(2);
+            x.round(0, 0, 0, 0);
+            x.round(1, 0, 0, 1010101 - units[part]);
+            x.round(0, 1, 0, 1010101 - units[part]);
+            x.round(1, 1, 0, 0);
+            CHECK.due(27, "one part without order, the others unlike", x.most(0, 1, 1), part);
+            LuckLinks z = Check.withPlayers(2);
+            z.round(0, 0, 0, 0);
+            z.round(1, 0, 0, units[part]);
+            z.round(0, 1, 0, units[part]);
+            z.round(1, 1, 0, 0);
+            CHECK.due(27, "one part unlike, the others without order", z.most(0, 1, 1), part == 0 ? 1 : 0);
+        }
         CHECK.due(27, "nobody: the least", Check.withPlayers(2).most(0, 1, 1), 0);
     }
 
