@@ -110,7 +110,7 @@ public final class LuckLinks {
             refuse(NOT_AS_TOLD);
             return false;
         }
-        world.bets[week * PLAYERS + player] = v;
+        world.putBet(player, week, v);
         return true;
     }
 
@@ -192,7 +192,7 @@ public final class LuckLinks {
         if (!world.isPlayer(player) || !isBetween(part, 0, PARTS - 1)) {
             return NO_GIFT;
         }
-        return world.gifts[player * PARTS + part];
+        return world.giftOf(player, part);
     }
 
     public int score(int player, int week, int day, int part) {
@@ -456,7 +456,9 @@ public final class LuckLinks {
     }
 
     private int refuse(int reason) {
-        refused[reason]++;
+        if (reason >= 0 && reason < refused.length) {
+            refused[reason]++;
+        }
         return NONE;
     }
 
@@ -567,6 +569,24 @@ public final class LuckLinks {
 
         int giftOf(int player, int part) {
             return isPlayer(player) && part >= 0 && part < PARTS ? gifts[player * PARTS + part] : 0;
+        }
+
+        /** Held to what a GIFT can be. */
+        void putGift(int player, int part, int gift) {
+            if (isPlayer(player) && part >= 0 && part < PARTS) {
+                gifts[player * PARTS + part] = Math.max(-GIFT, Math.min(GIFT, gift));
+            }
+        }
+
+        void putBet(int player, int week, int v) {
+            if (isPlayer(player) && isWeek(week)) {
+                bets[week * PLAYERS + player] = v;
+            }
+        }
+
+        /** 0 without. */
+        int betOf(int player, int week) {
+            return isPlayer(player) && isWeek(week) ? bets[week * PLAYERS + player] : 0;
         }
 
         int strokesOf(int course, int part) {
@@ -834,7 +854,7 @@ public final class LuckLinks {
         private final int[] kinds = new int[TAPE + 1];
         private final int[] starts = new int[TAPE + 1];
         private final int[] ends = new int[TAPE + 1];
-        /** The token at hand. */
+        /** The token at hand; the END is never stepped past. */
         private int at = 0;
         /** What was taken last. */
         private int number = 0;
@@ -1089,6 +1109,12 @@ public final class LuckLinks {
             }
         }
 
+        private void step() {
+            if (at < TAPE) {
+                at++;
+            }
+        }
+
         private boolean takePart() {
             for (int i = 0; i < PARTS; i++) {
                 if (takeWord(partAt(i))) {
@@ -1109,7 +1135,7 @@ public final class LuckLinks {
                     return false;
                 }
             }
-            at++;
+            step();
             return true;
         }
 
@@ -1117,7 +1143,7 @@ public final class LuckLinks {
             if (kinds[at] != SIGN || starts[at] >= text.length || text[starts[at]] != sign) {
                 return false;
             }
-            at++;
+            step();
             return true;
         }
 
@@ -1133,7 +1159,7 @@ public final class LuckLinks {
                 return false;
             }
             number = read;
-            at++;
+            step();
             return true;
         }
     }
@@ -1278,8 +1304,7 @@ public final class LuckLinks {
 
         private void drift(int player, Law law) {
             for (int part = 0; part < PARTS; part++) {
-                int gift = world.giftOf(player, part) + draw(law.drifts[part]);
-                world.gifts[player * PARTS + part] = Math.max(-GIFT, Math.min(GIFT, gift));
+                world.putGift(player, part, world.giftOf(player, part) + draw(law.drifts[part]));
             }
         }
 
@@ -1529,19 +1554,31 @@ public final class LuckLinks {
             }
         }
 
+        private static boolean isRow(int player, int week) {
+            return player >= 0 && player < PLAYERS && week >= 0 && week < WEEKS;
+        }
+
+        private int roundsIn(int player, int week) {
+            return isRow(player, week) ? many[player * WEEKS + week] : 0;
+        }
+
+        private long offsIn(int player, int week) {
+            return isRow(player, week) ? offs[player * WEEKS + week] : 0;
+        }
+
         /** Of what was gathered; the lower number is 0 where there is no SKILL. */
         void weigh(int player, int week, Law law) {
             upper = 0;
             lower = 0;
-            if (!world.isPlayer(player) || player >= PLAYERS) {
+            if (!world.isPlayer(player)) {
                 return;
             }
             for (int ahead = 0; ahead < week && ahead < WEEKS; ahead++) {
-                int at = player * WEEKS + ahead;
-                if (many[at] > 0) {
+                int played = roundsIn(player, ahead);
+                if (played > 0) {
                     int weight = law.weightOf(week - ahead);
-                    upper += weight * offs[at];
-                    lower += weight * many[at];
+                    upper += weight * offsIn(player, ahead);
+                    lower += weight * played;
                 }
             }
         }
@@ -1556,11 +1593,11 @@ public final class LuckLinks {
             long endUpper = 0;
             long endLower = 0;
             for (int ahead = 0; ahead < week && ahead < WEEKS; ahead++) {
-                int at = player * WEEKS + ahead;
-                if (many[at] > 0) {
+                int played = roundsIn(player, ahead);
+                if (played > 0) {
                     int weight = law.weightOf(week - ahead);
-                    long restUpper = upper - weight * offs[at];
-                    long restLower = lower - weight * many[at];
+                    long restUpper = upper - weight * offsIn(player, ahead);
+                    long restLower = lower - weight * played;
                     if (restLower < 1) {
                         return NO_SPAN;
                     }
@@ -1624,7 +1661,7 @@ public final class LuckLinks {
 
         private int foretold(int player, int week, int what, Law law) {
             if (what == 1) {
-                return world.bets[week * PLAYERS + player];
+                return world.betOf(player, week);
             }
             if (what == 3) {
                 return 0;
@@ -1639,9 +1676,9 @@ public final class LuckLinks {
 
         private int latest(int player, int week) {
             for (int ahead = week - 1; ahead >= 0; ahead--) {
-                int at = player * WEEKS + ahead;
-                if (many[at] > 0) {
-                    return hundredths(offs[at], many[at]);
+                int played = roundsIn(player, ahead);
+                if (played > 0) {
+                    return hundredths(offsIn(player, ahead), played);
                 }
             }
             return 0;
